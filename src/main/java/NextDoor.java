@@ -36,7 +36,7 @@ public final class NextDoor {
     private final boolean[] kept = new boolean[IMAGES];
     private final Walk walk = new Walk(street);
     private final Search search = new Search(street, walk);
-    private final RoadReader reader = new RoadReader();
+    private final RoadReader reader = new RoadReader(street);
     private final int[] refused = new int[3];
     private final int[] taken = new int[MOST_PRICE + 1];
     private final int[] pricesTold = new int[MOST_SHOPS];
@@ -127,7 +127,7 @@ public final class NextDoor {
     }
 
     public int read() {
-        int items = reader.readRoad(street);
+        int items = reader.readRoad();
         if (reader.fault != NONE) {
             return FAULT_BASE - reader.fault;
         }
@@ -602,7 +602,7 @@ public final class NextDoor {
 
         /** Buys at a SHOP behind so many others, or tells why not. */
         int step(int level, int shop) {
-            if (!leadsTo(level, shop)) {
+            if ((waysOn(level) >> shop & 1) == 0) {
                 return NOT_NEAR;
             }
             // Behind all SHOPS there is none where one has not been.
@@ -635,8 +635,9 @@ public final class NextDoor {
             return SOLD;
         }
 
-        private boolean leadsTo(int level, int shop) {
-            return level == 0 ? street.isFree(shop) : street.areNear(shopAt[level - 1], shop);
+        /** The SHOPS that may come then, as bits, those where one was among them. */
+        int waysOn(int level) {
+            return level <= 0 ? street.freeOnes : street.near[shopAt[level - 1]];
         }
     }
 
@@ -726,8 +727,9 @@ public final class NextDoor {
                 keep(level);
                 return;
             }
+            int open = walk.waysOn(level) & ~walk.beenAt[level] & ~closed;
             for (int shop = 0; shop < street.shops; shop++) {
-                if ((closed >> shop & 1) == 0 && walk.step(level, shop) == SOLD) {
+                if ((open >> shop & 1) != 0 && walk.step(level, shop) == SOLD) {
                     goOn(level + 1);
                 }
             }
@@ -762,17 +764,22 @@ public final class NextDoor {
 
         final Street draft = new Street();
         int fault = NONE;
-        private final int[] text = new int[MOST_BYTES];
+        private final Street road;
+        private final int[] text;
         private int length;
         private int at;
         private int token;
         private int start;
         private int number;
 
+        RoadReader(Street road) {
+            this.road = road;
+            this.text = road.text;
+        }
+
         /** How many ITEMS; fault is NONE, or the place of the FAULT. */
-        int readRoad(Street road) {
+        int readRoad() {
             length = Math.min(road.length, MOST_BYTES);
-            System.arraycopy(road.text, 0, text, 0, MOST_BYTES);
             at = 0;
             fault = NONE;
             draft.forgetShops();
@@ -813,12 +820,12 @@ public final class NextDoor {
         private void readNext() {
             goToToken();
             int a = takeNumber(0, draft.shops - 1);
-            // The second number is the one that can not stand behind the first.
-            boolean isBesideA = token == NUMBER && draft.hasShop(number);
-            if (fault == NONE && isBesideA && (number == a || draft.areNear(a, number))) {
-                fail();
-            }
+            int startOfB = start;
             int b = takeNumber(0, draft.shops - 1);
+            // Each may stand alone: it is the second that can not stand behind the first.
+            if (fault == NONE && (a == b || draft.areNear(a, b))) {
+                fault = startOfB;
+            }
             if (takeStop()) {
                 draft.setNear(a, b, true);
             }
