@@ -4,6 +4,8 @@ public final class BoundariesPrices extends Boundary {
     private static final State LINE = road("shop 0 4 1 240;shop 1 3 1 240;shop 2 6 1 240;next 0 1;next 1 2;free 0;");
     /** Two ways to 2: who is the cheaper is gone to, of like ones 0. */
     private static final State RIVALS = and(road("shop 0 9 1 240;shop 0 6 1 240;shop 0 1 1 240;next 0 2;next 1 2;free 0;free 1;"), x -> x.buyer(2, 99));
+    /** 1 takes the GOOD of 0 back. */
+    private static final State GIVEN_BACK = and(road("shop 0 4 1 240;shop 2 20 1 240;next 0 1;free 0;"), x -> x.buyer(1, 25));
 
     public static void main(String[] args) {
         runAll(BoundariesPrices.class, 17, 22);
@@ -222,6 +224,12 @@ public final class BoundariesPrices extends Boundary {
         answered(buyers(LINE, 1, 5), 0, x -> x.asks(1));
     }
 
+    static void promise20_asks_backGivesHalfOfThePriceThatIsTried() {
+        // Of who may pay 25 in all 20 go to 1, less half of what 0 asks: 10 and 15, not 7 and 18 by the PRICE of now.
+        answered(GIVEN_BACK, 10, x -> x.asks(0));
+        answered(and(GIVEN_BACK, x -> x.price(0, 20)), 10, x -> x.asks(0));
+    }
+
     // ---- 21: "CHANGES: rounds (shop = NONE), the PRICE of a SHOP then. NONE. BAD."
 
     private static State rivals(int first, int second) {
@@ -284,6 +292,12 @@ public final class BoundariesPrices extends Boundary {
         answered(rivals(9, 6), 1, x -> x.changes(0));
         answered(rivals(9, 6), 1, x -> x.changes(1));
         answered(rivals(9, 6), 20, x -> x.changes(2));
+    }
+
+    static void promise21_changes_backGivesHalfOfThePriceOfThen() {
+        answered(GIVEN_BACK, 2, x -> x.changes(NONE));
+        answered(GIVEN_BACK, 10, x -> x.changes(0));
+        answered(GIVEN_BACK, 20, x -> x.changes(1));
     }
 
     static void promise21_changes_eightRoundsAtMost() {
